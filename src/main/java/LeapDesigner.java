@@ -6,6 +6,9 @@ public final class LeapDesigner {
     private static final int REFUSED = -2;
     private static final int UNFIT = -3;
 
+    // What date() and its like tell by 4.
+    private static final int WEEKDAY = 4;
+
     private static final int SLOTS = 6;
     private static final int UNDO_DEPTH = 12;
     private static final int TAPE_BYTES = 800;
@@ -1265,7 +1268,7 @@ public final class LeapDesigner {
                     return month;
                 case 3:
                     return day - frame.monthOffset(month, isLeap);
-                case 4:
+                case WEEKDAY:
                     return frame.weekdayOf(number);
                 default:
                     return NOTHING;
@@ -1383,7 +1386,7 @@ public final class LeapDesigner {
         }
     }
 
-    /** Two designs, the second from a day on, told by day numbers of the first. */
+    /** Two designs, the second from the seam on; by its own numbers it is that much ahead of the first's. */
     private static final class Joint {
         private final Design first;
         private final Design second;
@@ -1401,24 +1404,20 @@ public final class LeapDesigner {
             if (!first.holds(number)) {
                 return NOTHING;
             }
-            if (number < seam) {
+            if (number < seam || what == WEEKDAY) {
                 return first.tellDate(number, what);
             }
-            long told = second.tellDate(number + ahead, what);
-            return what == 4 && told != NOTHING ? first.frame.weekdayOf(number) : told;
+            return second.tellDate(number + ahead, what);
         }
 
         long earlyDay(int year, int month, int day) {
             long number = first.numberOf(year, month, day);
-            return number < seam ? number : NOTHING;
+            return number != NOTHING && number < seam ? number : NOTHING;
         }
 
         long lateDay(int year, int month, int day) {
             long told = second.numberOf(year, month, day);
-            if (told == NOTHING || told - ahead < seam || !first.holds(told - ahead)) {
-                return NOTHING;
-            }
-            return told - ahead;
+            return told != NOTHING && told - ahead >= seam ? told - ahead : NOTHING;
         }
 
         long firstDay(int year, int month, int day) {

@@ -154,6 +154,12 @@ public final class PromiseTest {
         CHECK.due("3 end 7", true, x.end(7));
         CHECK.due("3 end 8", false, x.end(8));
         due("3 goes on behind", 27, x.feed(0, 0, 0, 0, 0));
+        x.end(0);
+        Check.feed(x, "year 3655;");
+        x.end(8);
+        due("3 what stood behind is gone", -1, x.design(0));
+        due("3 what stood behind is gone, fault", 1, x.fault(0));
+        due("3 what stood behind is gone, place", 8, x.fault(1));
     }
 
     // ---- promise 4
@@ -296,6 +302,8 @@ public final class PromiseTest {
         due("12 what it was", 0, x.shift(0, 32));
         due("12 is now", 32, x.has(0, 11));
         due("12 what it was then", 32, x.shift(0, 1));
+        due("12 to 0", 1, x.shift(0, 0));
+        due("12 from 0", 0, x.shift(0, 1));
         due("12 too much", -2, x.shift(0, 33));
         due("12 too little", -2, x.shift(0, -1));
         due("12 every", -3, x.shift(1, 0));
@@ -303,7 +311,7 @@ public final class PromiseTest {
         due("12 none", -3, x.shift(3, 0));
         due("12 not there", -2, x.shift(4, 0));
         due("12 no slot", -2, x.shift(-1, 0));
-        due("12 changes", 6, x.count(1));
+        due("12 changes", 8, x.count(1));
         due("12 leap", 1, x.leap(0, 0));
         due("12 leap, shifted", 1, x.leap(0, 4));
         due("12 leap no more", 0, x.leap(0, 5));
@@ -422,6 +430,9 @@ public final class PromiseTest {
         due("17 none", 0, x.leap(3, 0));
         due("17 not at the end", 0, x.leap(4, 0));
         due("17 not at the end, odd", 1, x.leap(4, 9));
+        Check.design(x, 3, "row 1 0;");
+        due("17 row of one", 1, x.leap(3, 7));
+        due("17 row of one, below 0", 1, x.leap(3, -7));
         due("17 last", 1, x.leap(0, 100000));
         due("17 first", 1, x.leap(0, -100000));
         due("17 past", -1, x.leap(0, 100001));
@@ -526,6 +537,8 @@ public final class PromiseTest {
         due("23 no year", 59, x.later(0, 0, 1, 28, 0));
         due("23 short", 20 + 3 + 3, x.later(1, 1, 0, 6, 1));
         due("23 to the last", 36524250, x.later(0, -100000, 0, 0, 200000));
+        due("23 to the first", -36524250, x.later(0, 100000, 0, 0, -200000));
+        due("23 ahead of the first", NOTHING, x.later(0, 100000, 0, 0, -200001));
         due("23 past the last", NOTHING, x.later(0, -100000, 0, 0, 200001));
         due("23 far", NOTHING, x.later(0, 100000, 0, 0, Integer.MAX_VALUE));
         due("23 far below", NOTHING, x.later(0, -100000, 0, 0, Integer.MIN_VALUE));
@@ -626,6 +639,9 @@ public final class PromiseTest {
         // with half a day of beginning the drifts 0 .. 3/4 are about 0
         LeapDesigner y = Check.with("even 1 of 4 shift 3;true 365 and 1 of 4;begins 1 of 2;");
         due("28 begins", 0, y.keeps(0));
+        LeapDesigner z = Check.with("even 999 of 1000;true 365 and 999 of 1000;");
+        // the common year is S and 1: with 499 or 500 drift is 1 by 2 away at the most
+        due("28 the longest", 498, z.keeps(0));
     }
 
     // ---- promise 29
@@ -931,6 +947,8 @@ public final class PromiseTest {
         due("43 ahead of the first", NOTHING, x.joined(-36525001, 0));
         due("43 past the last", NOTHING, x.joined(36525000 + 366, 0));
         due("43 past the last of the second", NOTHING, x.joined(36525000 + 365, 0));
+        due("43 past the last of the second, weekday", (36525000 + 365 + 3) % 7, x.joined(36525000 + 365, 4));
+        due("43 past the last, weekday", NOTHING, x.joined(36525000 + 366, 4));
         due("43 far", NOTHING, x.joined(Long.MAX_VALUE, 0));
         due("43 far below", NOTHING, x.joined(Long.MIN_VALUE, 0));
         due("43 without", NOTHING, new LeapDesigner().joined(0, 0));
@@ -985,6 +1003,8 @@ public final class PromiseTest {
         due("46 not there", -1, x.like(0, 5));
         due("46 no slot", -1, x.like(-1, 0));
         LeapDesigner y = Check.with("every 1 not 4999 but 9998;", "every 1 not 9998;", "row 6 0 3;", "row 6 2 5;", "row 6 0 2 3 5;");
+        Check.design(y, 5, "every 9999;");
+        due("46 the longest", 0, y.like(5, 5));
         due("46 long cycles", 4999, y.like(0, 1));
         due("46 long cycles back", 4999, y.like(1, 0));
         due("46 fewest", 2, y.like(2, 3));
@@ -1009,6 +1029,10 @@ public final class PromiseTest {
         due("47 below a year", 0, x.within(4, 2, 1, 1));
         due("47 below a year, none", NOTHING, x.within(4, 3, 1, 0));
         due("47 half", 2, x.within(5, 3, 1, 0));
+        LeapDesigner y = Check.with("extra 30;true 365 and 3 of 100;", "extra 30;true 365 and 15 of 1000;");
+        due("47 N 1000", 1000, y.within(0, 100000, 1, 0));
+        due("47 N 1000, K", 1, y.within(0, 100000, 1, 1));
+        due("47 no N to 1000", NOTHING, y.within(1, 100000, 1, 0));
         due("47 years 0", NOTHING, x.within(0, 0, 1, 0));
         due("47 years above", NOTHING, x.within(0, 100001, 1, 0));
         due("47 bound 0", NOTHING, x.within(0, 1, 0, 0));
@@ -1143,6 +1167,8 @@ public final class PromiseTest {
         due("53 extra, a day off", 128, x.suggests(3, 8, 2));
         due("53 lower number above 1000000", NOTHING, x.suggests(4, 8, 0));
         due("53 lower number in least terms", 7, x.suggests(5, 8, 1));
+        due("53 n 1", 0, x.suggests(0, 1, 0));
+        due("53 n 1, a day off", 4, x.suggests(0, 1, 2));
         due("53 n 0", NOTHING, x.suggests(0, 0, 0));
         due("53 n 1000", 1, x.suggests(0, 1000, 1) <= 1000 ? 1 : 0);
         due("53 n 1001", NOTHING, x.suggests(0, 1001, 0));
@@ -1152,6 +1178,9 @@ public final class PromiseTest {
         due("53 none off", 0, x.suggests(0, 33, 2));
         x.truth(0, 366, 0, 1);
         due("53 one", 1, x.suggests(0, 33, 0));
+        x.truth(0, 365, 0, 1);
+        due("53 nothing above year", 0, x.suggests(0, 33, 0));
+        due("53 nothing above year, by 1", 1, x.suggests(0, 33, 1));
         x.drop(0);
         due("53 not there", NOTHING, x.suggests(0, 33, 0));
     }
