@@ -921,7 +921,7 @@ public final class LeapDesigner {
             this.extra = extra;
             this.months = months;
             this.leapMonth = leapMonth;
-            this.week = week;
+            this.week = Math.max(1, week);
             this.firstWeekday = firstWeekday;
         }
 
@@ -1288,38 +1288,44 @@ public final class LeapDesigner {
             return Fraction.leastTerms(driftUnits(year), trueYear.unitsOfDay());
         }
 
-        /** What a YEAR adds to the drift of the one behind it. */
-        long driftStep(int year) {
-            return daysOf(year) * trueYear.unitsOfDay() - trueYear.unitsOfYear();
+        /** What a YEAR adds to the drift of the one behind it, in UNITS. */
+        long driftStep(boolean isLeap) {
+            return frame.yearDays(isLeap) * trueYear.unitsOfDay() - trueYear.unitsOfYear();
         }
 
         int extremeYear(int from, int to, boolean most) {
+            long common = driftStep(false);
+            long leaping = driftStep(true);
             long here = driftUnits(from);
-            long extreme = here;
+            long farthest = here;
             int found = from;
-            for (int year = from + 1; year <= to; year++) {
-                here += driftStep(year - 1);
-                if (most ? here > extreme : here < extreme) {
-                    extreme = here;
+            for (int year = from; year <= to; year++) {
+                if (most ? here > farthest : here < farthest) {
+                    farthest = here;
                     found = year;
                 }
+                here += law.isLeap(year) ? leaping : common;
             }
             return found;
         }
 
         int passingYear(int bound) {
+            long common = driftStep(false);
+            long leaping = driftStep(true);
             long most = bound * trueYear.unitsOfDay();
             long slip = 0;
             for (int year = 0; year <= LONGEST_WALK; year++) {
                 if (Math.abs(slip) > most) {
                     return year;
                 }
-                slip += driftStep(year);
+                slip += law.isLeap(year) ? leaping : common;
             }
             return NONE;
         }
 
         long tellSteady(int from, int to, int bound, int what) {
+            long common = driftStep(false);
+            long leaping = driftStep(true);
             long most = bound * trueYear.unitsOfDay();
             long here = driftUnits(from);
             int length = 0;
@@ -1331,7 +1337,7 @@ public final class LeapDesigner {
                     longest = length;
                     first = year - length + 1;
                 }
-                here += driftStep(year);
+                here += law.isLeap(year) ? leaping : common;
             }
             return what == 0 ? longest : first;
         }
@@ -1347,14 +1353,16 @@ public final class LeapDesigner {
             }
             int holder = yearOf(dawnOf(from));
             long start = startOf(holder);
+            int days = daysOf(holder);
             int least = frame.yearDays(true);
             int greatest = 0;
             int strangers = 0;
             for (int year = from; year <= to; year++) {
                 long dawn = dawnOf(year);
-                while (holder < LAST_YEAR && dawn - start >= daysOf(holder)) {
-                    start += daysOf(holder);
+                while (holder < LAST_YEAR && dawn - start >= days) {
+                    start += days;
                     holder++;
+                    days = daysOf(holder);
                 }
                 int day = (int) (dawn - start);
                 least = Math.min(least, day);

@@ -45,6 +45,11 @@ public final class FaceTest {
                 got.add(method.getReturnType() + " " + method.getName() + "(" + types + ")");
             }
         }
+        for (Class<?> type : LeapDesigner.class.getDeclaredClasses()) {
+            for (Method method : type.getDeclaredMethods()) {
+                hidden.add(method.getName());
+            }
+        }
         CHECK.due("face " + got, true, want.equals(got));
         for (String signature : want) {
             String name = signature.substring(signature.indexOf(' ') + 1, signature.indexOf('('));
