@@ -1394,7 +1394,10 @@ public final class LeapDesigner {
         }
     }
 
-    /** Two designs, the second from the seam on; by its own numbers it is that much ahead of the first's. */
+    /**
+     * Two designs, the second from the seam on; by its own numbers it is that much ahead of the first's.
+     * A day must be one of both from the seam on: its number is the first's, its date the second's.
+     */
     private static final class Joint {
         private final Design first;
         private final Design second;
@@ -1412,10 +1415,11 @@ public final class LeapDesigner {
             if (!first.holds(number)) {
                 return NOTHING;
             }
-            if (number < seam || what == WEEKDAY) {
+            if (number < seam) {
                 return first.tellDate(number, what);
             }
-            return second.tellDate(number + ahead, what);
+            long told = second.tellDate(number + ahead, what);
+            return told != NOTHING && what == WEEKDAY ? first.tellDate(number, what) : told;
         }
 
         long earlyDay(int year, int month, int day) {
@@ -1425,7 +1429,11 @@ public final class LeapDesigner {
 
         long lateDay(int year, int month, int day) {
             long told = second.numberOf(year, month, day);
-            return told != NOTHING && told - ahead >= seam ? told - ahead : NOTHING;
+            if (told == NOTHING) {
+                return NOTHING;
+            }
+            long number = told - ahead;
+            return number >= seam && first.holds(number) ? number : NOTHING;
         }
 
         long firstDay(int year, int month, int day) {

@@ -407,7 +407,7 @@ public final class ModelTest {
         }
         long ahead = b.dated(y, m, day) - seam;
         for (int i = 0; i < 20; i++) {
-            long number = dice.coin() ? seam + dice.from(-3, 3) : dice.coin() ? seam + dice.from(-2000, 2000) : anyNumber(a);
+            long number = dice.coin() ? seam + dice.from(-3, 3) : jointNumber(seam, ahead);
             int what = dice.from(-1, 5);
             due("joined " + number + " " + what, joinedDate(number, what, seam, ahead), x.joined(number, what));
             int[] one = jointDate(seam, ahead);
@@ -427,11 +427,28 @@ public final class ModelTest {
         if (!a.holds(number) || number < seam) {
             return a.date(number, what);
         }
+        if (!b.holds(number + ahead)) {
+            return NOTHING;
+        }
         return what == 4 ? a.weekday(number) : b.date(number + ahead, what);
     }
 
+    /** Near the seam, near where the first one's or the second one's days end, or any. */
+    private long jointNumber(long seam, long ahead) {
+        switch (dice.from(0, 4)) {
+            case 0:
+                return a.start(100001) + dice.from(-4, 4);
+            case 1:
+                return b.start(100001) - ahead + dice.from(-4, 4);
+            case 2:
+                return anyNumber(a);
+            default:
+                return seam + dice.from(-800, 800);
+        }
+    }
+
     private int[] jointDate(long seam, long ahead) {
-        long number = seam + dice.from(-800, 800);
+        long number = jointNumber(seam, ahead);
         Model m = dice.coin() ? a : b;
         long told = m == a ? number : number + ahead;
         if (!m.holds(told)) {
@@ -447,7 +464,8 @@ public final class ModelTest {
 
     private long late(int[] date, long seam, long ahead) {
         long number = b.dated(date[0], date[1], date[2]);
-        return number != NOTHING && number - ahead >= seam ? number - ahead : NOTHING;
+        boolean there = number != NOTHING && number - ahead >= seam && a.holds(number - ahead);
+        return there ? number - ahead : NOTHING;
     }
 
     private long first(int[] date, long seam, long ahead) {

@@ -947,7 +947,12 @@ public final class PromiseTest {
         due("43 ahead of the first", NOTHING, x.joined(-36525001, 0));
         due("43 past the last", NOTHING, x.joined(36525000 + 366, 0));
         due("43 past the last of the second", NOTHING, x.joined(36525000 + 365, 0));
-        due("43 past the last of the second, weekday", (36525000 + 365 + 3) % 7, x.joined(36525000 + 365, 4));
+        due("43 past the last of the second, weekday", NOTHING, x.joined(36525000 + 365, 4));
+        long end = x.dated(1, 100000, 11, 30) - x.dated(1, 1582, 9, 14) + seam;
+        due("43 last of the second", 100000, x.joined(end, 0));
+        due("43 last of the second, weekday", x.date(0, end, 4), x.joined(end, 4));
+        due("43 behind the last of the second", NOTHING, x.joined(end + 1, 0));
+        due("43 behind the last of the second, weekday", NOTHING, x.joined(end + 1, 4));
         due("43 past the last, weekday", NOTHING, x.joined(36525000 + 366, 4));
         due("43 far", NOTHING, x.joined(Long.MAX_VALUE, 0));
         due("43 far below", NOTHING, x.joined(Long.MIN_VALUE, 0));
@@ -973,6 +978,13 @@ public final class PromiseTest {
         due("44 once, ahead", 1, x.often(0, 0, 20));
         due("44 once, from it on", 1, x.often(0, 6, 0));
         due("44 without", -1, new LeapDesigner().often(0, 0, 0));
+        LeapDesigner plain = Check.with("");
+        plain.join(0, 1, 0, 0, 0, 0);
+        due("44 last number of the first", 1, plain.often(100000, 0, 363));
+        due("44 behind the last number of the first", 0, plain.often(100000, 0, 364));
+        plain.join(0, 36500364, 0, 0, 0, 0);
+        due("44 on the last number of the first, and ahead", 2, plain.often(0, 0, 0));
+        due("44 behind it, but ahead", 1, plain.often(0, 0, 1));
     }
 
     // ---- promise 45
@@ -989,6 +1001,11 @@ public final class PromiseTest {
         due("45 the first day with it", 25, x.span(0, 0, 0, 0, 0, 25));
         due("45 the only day with it", 40 + 31 - 20 + 10, x.span(0, 0, 0, 0, 1, 10));
         due("45 without", NOTHING, new LeapDesigner().span(0, 0, 0, 0, 0, 0));
+        LeapDesigner plain = Check.with("");
+        plain.join(0, 1, 0, 0, 0, 0);
+        due("45 to the last number of the first", 36500364, plain.span(0, 0, 0, 100000, 0, 363));
+        due("45 behind it", NOTHING, plain.span(0, 0, 0, 100000, 0, 364));
+        due("45 from behind it", NOTHING, plain.span(100000, 0, 364, 0, 0, 0));
     }
 
     // ---- promise 46
