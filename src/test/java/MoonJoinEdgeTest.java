@@ -32,6 +32,7 @@ public final class MoonJoinEdgeTest {
         joinedEnds();
         joinedSecondEnds();
         joinedOthers();
+        joinedDayBelowZero();
         oftenSeam();
         oftenEnds();
         oftenNoDate();
@@ -344,6 +345,25 @@ public final class MoonJoinEdgeTest {
             due("43 others, the first", NOTHING, x.joined(4, what));
             due("43 others, the second", NOTHING, x.joined(5, what));
         }
+    }
+
+    /** Day -1 is a day like others, though its number is that of NONE, too. */
+    private static void joinedDayBelowZero() {
+        LeapDesigner x = Check.with(TEN, TWENTY);
+        // the second's day -10 is the first's day 5, so that its day -1 is the first's day 14
+        due("42 a date below 0", 1, x.join(0, 5, 1, -1, 0, 10));
+        due("43 day -1 of the first", 9, x.joined(-1, 1));
+        due("43 day -1 of the second", 19, x.joined(14, 1));
+        due("43 its YEAR", -1, x.joined(14, 0));
+        due("43 its WEEKDAY", 0, x.joined(14, 4));
+        due("44 day -1 of the first", 1, x.often(-1, 0, 9));
+        due("44 day -1 of the second", 1, x.often(-1, 0, 19));
+        due("45 from the one to the other", 15, x.span(-1, 0, 9, -1, 0, 19));
+        due("42 both are -1", 1, x.join(0, -1, 1, -1, 0, 19));
+        due("43 the seam at -1", 19, x.joined(-1, 1));
+        due("43 ahead of it", 8, x.joined(-2, 1));
+        due("44 the seam at -1", 1, x.often(-1, 0, 19));
+        due("44 the first's is none", 0, x.often(-1, 0, 9));
     }
 
     // ---- promise 44
